@@ -9,6 +9,10 @@ public final class ModelTest {
         "ac", "bb", "dd", "hh", "ff", "ag", "bf", "ce", "dh", "eg", "ca", "aab", "abcdefgh", "aaaaaa", "gg", "h", "a",
     };
 
+    private static final int[] EXTREMES = {
+        Integer.MIN_VALUE, Integer.MIN_VALUE + 1, -65536, 65536, 1 << 30, Integer.MAX_VALUE - 1, Integer.MAX_VALUE,
+    };
+
     private static long x;
     private static int wrong;
     private static int mostContainers;
@@ -150,7 +154,9 @@ public final class ModelTest {
         most(run);
     }
 
+    /** Mostly a number below the bound, seldom one beside it or far from it. */
     private static int about(int bound) {
+        if (below(150) == 0) return EXTREMES[below(EXTREMES.length)];
         return below(15) == 0 ? below(2 * bound + 8) - 4 : below(bound);
     }
 
@@ -199,7 +205,7 @@ public final class ModelTest {
     private static long script(int n) {
         if (below(20) == 0) return x >> below(60);
         long script = 0;
-        for (int i = 0; i < n; i++) script = script * 10000 + group();
+        for (int i = 0; i < Math.min(n, 4); i++) script = script * 10000 + group();
         return script;
     }
 
