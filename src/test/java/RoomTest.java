@@ -29,7 +29,7 @@ public final class RoomTest {
     private static void run(ChunkCarriers x) {
         String text = "acbbddhhffagbfceacddaceg,abcdefghhgfedcba,ddacddac";
         for (int i = 0; i < text.length(); i++) x.append(text.charAt(i));
-        for (int i = 0; i < 45; i++) {
+        for (int i = 0; i < 40; i++) {
             x.backup(i % 3);
             x.simulate(i, 40);
             x.runScript(3, 100030004309L);
